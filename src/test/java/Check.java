@@ -1,0 +1,38 @@
+/** Counts the answers of one test that are not as due. */
+final class Check {
+    private int wrong = 0;
+    private int asked = 0;
+    private String part = "";
+
+    void part(String name) {
+        part = name;
+    }
+
+    void due(String call, long got, long want) {
+        asked++;
+        if (got != want) {
+            wrong++;
+            System.out.println(part + ": " + call + " answered " + got + ", due is " + want);
+        }
+    }
+
+    void holds(String what, boolean does) {
+        asked++;
+        if (!does) {
+            wrong++;
+            System.out.println(part + ": " + what);
+        }
+    }
+
+    int wrong() {
+        return wrong;
+    }
+
+    /** The end of a main method. */
+    void close() {
+        System.out.println(asked + " looked at, " + wrong + " wrong");
+        if (wrong != 0 || asked == 0) {
+            System.exit(1);
+        }
+    }
+}
