@@ -151,7 +151,7 @@ public final class HamperDays {
         if (now.size == 0 || !now.isAllIn()) {
             return STATE;
         }
-        now.takeAway(now.size - 1);
+        now.shrinkTo(now.size - 1);
         return now.size;
     }
 
@@ -173,8 +173,8 @@ public final class HamperDays {
         }
         switch (what) {
             case 0: return moodBehind(n);
-            case 1: return greatestMood(n);
-            case 2: return leastMood(n);
+            case 1: return utmostMood(n, true);
+            case 2: return utmostMood(n, false);
             case 3: return outBehind(n);
             case 4: return firstAtZero(n);
             default: return BAD;
@@ -539,24 +539,14 @@ public final class HamperDays {
         return trial.outBits();
     }
 
-    private int greatestMood(int n) {
+    private int utmostMood(int n, boolean greatest) {
         startTrial();
-        int greatest = trial.mood;
+        int utmost = trial.mood;
         for (int k = 0; k < n; k++) {
             trial.passOne(false);
-            greatest = Math.max(greatest, trial.mood);
+            utmost = greatest ? Math.max(utmost, trial.mood) : Math.min(utmost, trial.mood);
         }
-        return greatest;
-    }
-
-    private int leastMood(int n) {
-        startTrial();
-        int least = trial.mood;
-        for (int k = 0; k < n; k++) {
-            trial.passOne(false);
-            least = Math.min(least, trial.mood);
-        }
-        return least;
+        return utmost;
     }
 
     private int firstAtZero(int n) {
@@ -875,7 +865,11 @@ public final class HamperDays {
         }
 
         int cheersOf(int i) {
-            int plain = isCrushed(i) ? goods[i] / 2 : goods[i];
+            return cheersUnder(i, weightBehind(i));
+        }
+
+        private int cheersUnder(int i, int load) {
+            int plain = load > bearsOf(i) ? goods[i] / 2 : goods[i];
             switch (kinds[i]) {
                 case GLASS: return 2 * plain;
                 case SHOWER: return -plain;
@@ -893,8 +887,10 @@ public final class HamperDays {
         }
 
         void tallyCheers() {
-            for (int i = 0; i < size; i++) {
-                cheers[i] = cheersOf(i);
+            int load = 0;
+            for (int i = size - 1; i >= 0; i--) {
+                cheers[i] = cheersUnder(i, load);
+                load += weights[i];
             }
         }
 
@@ -1033,7 +1029,9 @@ public final class HamperDays {
 
     /** THE TAPE, and how it is read. */
     private static final class Tape {
-        private static final int END = 0, NAME = 1, NUMBER = 2, STOP = 3;
+        // Sorts of signs; the first four are sorts of TOKENS too.
+        private static final int END = 0, NAME = 1, NUMBER = 2, STOP = 3, BLANK = 4, OTHER = 5;
+        // What begins a line, beside the KINDS.
         private static final int MOOD = 4, TIRE = 5, UNKNOWN = -1;
         private final byte[] bytes = new byte[MOST_BYTES];
         int length = 0;
@@ -1109,7 +1107,7 @@ public final class HamperDays {
             return takeStop();
         }
 
-        private boolean takeThing(Hamper into, int word) {
+        private boolean takeThing(Hamper into, int kind) {
             if (into.size >= MOST_THINGS) {
                 return refuse(5);
             }
@@ -1117,7 +1115,7 @@ public final class HamperDays {
                 return false;
             }
             int good = number;
-            return takeNumber(1, 9) && takeStop() && into.add(word, good, number);
+            return takeNumber(1, 9) && takeStop() && into.add(kind, good, number);
         }
 
         private boolean takeNumber(int least, int most) {
@@ -1135,52 +1133,38 @@ public final class HamperDays {
         }
 
         private boolean takeToken() {
-            while (place < length && bytes[place] == ' ') {
+            while (place < length && sortAt(place) == BLANK) {
                 place++;
             }
             start = place;
-            if (place >= length) {
-                token = END;
-                return true;
-            }
-            if (isLetter(bytes[place])) {
-                return takeName();
-            }
-            if (isFigure(bytes[place])) {
-                return takeFigures();
-            }
-            if (bytes[place] != ';') {
+            token = sortAt(place);
+            if (token == OTHER) {
                 return refuse(1);
             }
-            token = STOP;
-            place++;
-            return true;
-        }
-
-        private boolean takeName() {
-            token = NAME;
-            while (place < length && isLetter(bytes[place])) {
+            if (token == STOP) {
                 place++;
+                return true;
             }
-            return true;
-        }
-
-        private boolean takeFigures() {
-            token = NUMBER;
             number = 0;
-            while (place < length && isFigure(bytes[place])) {
+            while (place < length && sortAt(place) == token) {
                 number = 10 * number + bytes[place] - '0';
                 place++;
             }
-            return place - start <= 2 || refuse(1);
+            return token != NUMBER || place - start <= 2 || refuse(1);
         }
 
-        private static boolean isLetter(int c) {
-            return isWithin(c, 'a', 'z');
-        }
-
-        private static boolean isFigure(int c) {
-            return isWithin(c, '0', '9');
+        private int sortAt(int at) {
+            if (at >= length) {
+                return END;
+            }
+            int c = bytes[at];
+            if (c >= 'a' && c <= 'z') {
+                return NAME;
+            }
+            if (c >= '0' && c <= '9') {
+                return NUMBER;
+            }
+            return c == ';' ? STOP : c == ' ' ? BLANK : OTHER;
         }
 
         private int wordTaken() {

@@ -165,6 +165,8 @@ public final class PromiseTest {
         told("mood 123;", -15, 1);
         told("123;", -10, 1);
         told("plain 6 2 111;", -20, 1);
+        told("mood 123!", -15, 1);
+        told("plain 123 99;", -16, 1);
         told("plains 6 2;", -10, 2);
         told("plai 6 2;", -10, 2);
         told("moodtire 5;", -10, 2);
@@ -192,7 +194,16 @@ public final class PromiseTest {
         told(seven + " glass", -67, 5);
         told(seven + "plains", -66, 2);
         told(seven + "mood 5;", 8, 0);
-        due("fault()", x.fault(), 0);
+        told("a".repeat(160), -10, 2);
+        told("1".repeat(160), -10, 1);
+        told(" ".repeat(160), 0, 0);
+        feedAll("moods");
+        x.end(4);
+        told("", -14, 2);
+        feedAll("tire 55;");
+        x.end(6);
+        told("", -16, 2);
+        due("rule(0)", x.rule(0), 0);
     }
 
     private static void textChanges() {
@@ -477,6 +488,12 @@ public final class PromiseTest {
         x.hours(1);
         due("order(0), one OUT", x.order(0), STATE);
         due("order(14), one OUT", x.order(14), STATE);
+        // Each bears all that are less just so; any other order crushes one: 3 times 4 glasses of 4 and 2, less 10.
+        with("18 order, the last row", "glass 2 1;glass 2 2;glass 2 3;glass 2 6;plain 2 9;mood 0;tire 1;");
+        due("order(0)", x.order(0), 44);
+        for (int i = 0; i < 5; i++) {
+            due("order(" + (10 + i) + ")", x.order(10 + i), 4 - i);
+        }
         start("18 order, nothing");
         due("order(0)", x.order(0), 20);
         due("order(10)", x.order(10), NONE);
@@ -865,8 +882,13 @@ public final class PromiseTest {
         due("read(0, 2, 0, 1)", x.read(0, 2, 0, 1), 1);
         due("sheet(0, 2, -1)", x.sheet(0, 2, -1), -14);
         due("read(0, 2, 0, 1), as it was", x.read(0, 2, 0, 1), 1);
+        x.lay(0, 0, 9);
+        x.lay(0, 1, 99);
         due("sheet(0, 2, 3)", x.sheet(0, 2, 3), 1);
         due("read(0, 2, 0, 1), of CELLS 0", x.read(0, 2, 0, 1), -20);
+        x.lay(0, 2, 8);
+        due("read(0, 2, 0, 1)", x.read(0, 2, 0, 1), 1);
+        things(2, 0, 0, 8);
     }
 
     private static void lay() {
@@ -881,6 +903,10 @@ public final class PromiseTest {
         due("lay(0, -1, 0)", x.lay(0, -1, 0), -12);
         due("lay(0, 3, 0)", x.lay(0, 3, 0), -12);
         due("lay(0, MOST, 0)", x.lay(0, MOST, 0), -12);
+        x.sheet(3, 0, 0);
+        due("lay(3, 0, 0), no CELLS", x.lay(3, 0, 0), -12);
+        due("read(3, 0, 0, 1), no CELLS", x.read(3, 0, 0, 1), 0);
+        due("torn()", x.torn(), 2);
         int[] lows = {0x1ff00, 0x70000, 0};
         for (int k = 0; k < 3; k++) {
             due("lay(" + k + ", 0, .. 3)", x.lay(k, 0, lows[k] + 3), 1);

@@ -1,0 +1,58 @@
+import java.nio.file.Files;
+import java.nio.file.Path;
+import java.util.regex.Matcher;
+import java.util.regex.Pattern;
+
+/** The rules of LANGUAGE.md that can be seen in the words of the source. */
+public final class LanguageTest {
+    private static final Check check = new Check();
+
+    public static void main(String[] args) throws Exception {
+        String whole = Files.readString(Path.of("src/main/java/HamperDays.java"));
+        String code = whole.replaceAll("(?s)/\\*.*?\\*/", "").replaceAll("//[^\n]*", "")
+                .replaceAll("\"[^\"]*\"", "\"\"").replaceAll("'[^']'", "' '");
+        check.part("language");
+        check.holds("signs 1 to 127 alone", whole.chars().allMatch(c -> c > 0 && c < 128));
+        none(code, "3, 4 imports", "\\bimport\\b|\\bpackage\\b|\\bjava\\.");
+        none(code, "6 words", "\\b(throw|throws|try|catch|finally|synchronized|assert|volatile|transient|native)\\b");
+        none(code, "2 lambdas, method references", "->|::");
+        none(code, "4 Exact", "\\w+Exact\\b");
+        none(code, "5 static blocks", "static\\s*\\{");
+        none(code, "6 equals, hashCode, toString, getClass", "\\b(hashCode|toString|getClass|equals)\\b");
+        none(code, "3 var, Object, wide types", "\\b(var|Object|Long|Short|Byte|Character|Boolean|Double|Float)\\b");
+        none(code, "9 loops without an end", "while\\s*\\(\\s*true|for\\s*\\(\\s*;\\s*;");
+        none(code, "13 clock, randomness, threads", "\\b(Thread|Random|currentTimeMillis|nanoTime|System\\.(?!arraycopy))\\b?");
+        none(code, "4 Math, Integer beyond compare, max, min, abs, bitCount",
+                "\\b(Math|Integer)\\.(?!(max|min|abs|compare|bitCount)\\b)\\w+");
+        none(code, "10 texts joined by +", "\"\"\\s*\\+|\\+\\s*\"\"");
+        lengths(code);
+        parameters(code);
+        check.close();
+    }
+
+    private static void none(String code, String rule, String pattern) {
+        Matcher m = Pattern.compile(pattern).matcher(code);
+        check.holds("rule " + rule, !m.find());
+    }
+
+    private static void lengths(String code) {
+        int from = -1;
+        String[] lines = code.split("\n", -1);
+        for (int k = 0; k < lines.length; k++) {
+            if (lines[k].matches(" {4,8}\\S.*\\) \\{")) {
+                from = k;
+            }
+            if (lines[k].matches(" {4,8}\\}") && from >= 0) {
+                check.holds("rule 11: method at line " + (from + 1) + " is short", k - from <= 60);
+                from = -1;
+            }
+        }
+    }
+
+    private static void parameters(String code) {
+        Matcher m = Pattern.compile("\\b\\w+\\(([^()]*)\\) \\{").matcher(code);
+        while (m.find()) {
+            check.holds("rule 11: at most seven parameters: " + m.group(), m.group(1).split(",").length <= 7);
+        }
+    }
+}
