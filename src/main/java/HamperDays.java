@@ -1145,12 +1145,21 @@ public final class HamperDays {
                 place++;
                 return true;
             }
-            number = 0;
             while (place < length && sortAt(place) == token) {
-                number = 10 * number + bytes[place] - '0';
                 place++;
             }
-            return token != NUMBER || place - start <= 2 || refuse(1);
+            return token != NUMBER || tellNumber();
+        }
+
+        private boolean tellNumber() {
+            if (place - start > 2) {
+                return refuse(1);
+            }
+            number = 0;
+            for (int at = start; at < place; at++) {
+                number = 10 * number + bytes[at] - '0';
+            }
+            return true;
         }
 
         private int sortAt(int at) {

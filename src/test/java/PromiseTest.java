@@ -194,6 +194,14 @@ public final class PromiseTest {
         told(seven + " glass", -67, 5);
         told(seven + "plains", -66, 2);
         told(seven + "mood 5;", 8, 0);
+        String[] beyond = {"/", ":", "`", "{", "<", "!", "\u001f"};
+        for (String sign : beyond) {
+            told("mood" + sign, -14, 1);
+            told("mood 5" + sign, -16, 1);
+        }
+        told("moodz 5;", -10, 2);
+        told("mooda 5;", -10, 2);
+        told("mood 09;tire 9;", 2, 0);
         told("a".repeat(160), -10, 2);
         told("1".repeat(160), -10, 1);
         told(" ".repeat(160), 0, 0);
