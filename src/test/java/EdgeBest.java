@@ -60,16 +60,37 @@ final class EdgeBest {
                 order(14) = 4
                 order(15) = BAD
                 """);
-        // Each bears all that are less just so; any other order crushes one.
-        e.run("""
-                told 'glass 2 1;glass 2 2;glass 2 3;glass 2 6;plain 2 9;mood 0;tire 1;'
-                order(0) = 44
-                order(10) = 4
-                order(11) = 3
-                order(12) = 2
-                order(13) = 1
-                order(14) = 0
+        // MOOD 0 is a MOOD too, and the first row is told by it.
+        e.run(CRUSHED + """
+                order(10) = 1
+                tire(9)
+                order(0) = 0
+                order(10) = 0
+                order(11) = 1
                 """);
+        everyRow(e, "", 5);
+    }
+
+    /** Each of these bears all that are less just so, any other order crushes one: by 120 packings each row is the best once. */
+    private static void everyRow(Edge e, String packed, int more) {
+        String[] things = {"2, 9)", "2, 6)", "2, 3)", "2, 2)", "2, 1)"};
+        if (more == 0) {
+            StringBuilder lines = new StringBuilder("mood(0)\ntire(1)\n");
+            for (int k = 0; k < 5; k++) {
+                lines.append("pack(").append(packed.charAt(k) == '0' ? "0, " : "1, ").append(things[packed.charAt(k) - '0']).append('\n');
+            }
+            lines.append("order(0) = 44\n");
+            for (int place = 0; place < 5; place++) {
+                lines.append("order(").append(10 + place).append(") = ").append(packed.indexOf('0' + place)).append('\n');
+            }
+            e.run(lines.toString());
+            return;
+        }
+        for (char next = '0'; next < '5'; next++) {
+            if (packed.indexOf(next) < 0) {
+                everyRow(e, packed + next, more - 1);
+            }
+        }
     }
 
     private static void orderRefused(Edge e) {
@@ -188,6 +209,14 @@ final class EdgeBest {
                 leave(4, 1) = 54
                 rules = 2 0 0 0 2 0 1
                 """);
+        // What is left out weighs no more: the glass bears the 4 that stay.
+        e.run("""
+                told 'glass 9 4;plain 0 9;plain 0 4;mood 0;tire 0;'
+                leave(60, 0) = 1
+                leave(60, 1) = 54
+                alter(2, 2, 5)
+                leave(60, 0) = NONE
+                """);
     }
 
     private static void top(Edge e) {
@@ -295,6 +324,15 @@ final class EdgeBest {
                 swap(60, 0) = 1
                 swap(60, 1) = 54
                 """);
+        // Their WEIGHTS go with them: changed with the heavy one it is still crushed, by the one on top.
+        e.run("""
+                told 'plain 9 1;plain 0 9;plain 0 5;mood 0;tire 0;'
+                swap(60, 0) = 2
+                swap(60, 1) = 27
+                top(60, 0) = 0
+                top(60, 1) = 27
+                leave(60, 0) = NONE
+                """);
         e.run("""
                 tire(0)
                 mood(0)
@@ -397,6 +435,8 @@ final class EdgeBest {
                 kind(0, 9, 0) = 0
                 kind(0, 9, 1) = 44
                 """);
+        // MOOD 0 is the greatest where there is no other.
+        e.run("pack(3, 9, 1)\nmood(0)\ntire(9)\nkind(0, 0, 0) = 0\nkind(0, 0, 1) = 0\nalter(0, 1, 0)\nkind(0, 9, 0) = 0\nkind(0, 9, 1) = 0");
         // One that is OUT stays so for as long as it would have.
         e.run("""
                 pack(0, 9, 1)

@@ -233,6 +233,15 @@ final class EdgeMoods {
                 ask(0, 1) = NONE
                 ask(1, 0) = BAD
                 forget(0)
+                see(1, 30)
+                goods(0) = 1
+                ask(0, 0) = NONE
+                ask(0, 1) = NONE
+                forget(0)
+                see(1, 39)
+                goods(0) = 512
+                ask(0, 0) = NONE
+                forget(0)
                 mood(99)
                 ask(0, 0) = NONE
                 mood(0)

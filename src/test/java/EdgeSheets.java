@@ -119,6 +119,42 @@ final class EdgeSheets {
                 back(1) = STATE
                 back(0) = STATE
                 """);
+        // What was SEEN comes back as it was, each of the six.
+        e.run("""
+                told 'plain 5 1;mood 30;tire 0;'
+                see(1, 35)
+                see(2, 40)
+                4 * see(3, 45)
+                keep(0) = 0
+                forget(1) = 6
+                see(1, 36)
+                goods(0) = 0
+                keep(1) = 0
+                forget(0) = 2
+                goods(0) = 1023
+                back(0) = 0
+                count(0) = 6
+                goods(0) = 32
+                back(1) = 0
+                count(0) = 2
+                goods(0) = 0
+                forget(1) = 2
+                goods(0) = 32
+                """);
+        // One packed behind back() is IN, whatever lay there before.
+        e.run("""
+                pack(0, 1, 1)
+                keep(0)
+                pack(3, 1, 1)
+                hours(1)
+                thing(1, 6) = 5
+                back(0) = 0
+                rules = 1 0 30 1 1 0
+                pack(3, 1, 1) = 2
+                thing(1, 6) = 0
+                rules = 2 0 30 1 2 0
+                strap() = 0
+                """);
         // HOUR 999 comes back too; TAPE, SHEETS, fault() and torn() are no part of an IMAGE.
         e.run("""
                 keep(0)
@@ -230,6 +266,12 @@ final class EdgeSheets {
                 read(0, 2, 37, 1) = 1
                 thing(2) = 0 0 1
                 sheet(0, 0, 3) = 1
+                laid 0 = 3 9 9
+                sheet(0, 0, 3) = 1
+                lay(0, 2, 1) = 1
+                read(0, 0, 0, 1) = 1
+                thing(3) = 0 0 1
+                lift()
                 sheet(0, 2, 40) = 1
                 read(0, 2, 37, 1) = -20
                 read(0, 0, 0, 1) = 0

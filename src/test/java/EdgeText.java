@@ -339,6 +339,13 @@ final class EdgeText {
                 text 'tire 1 1;' = -17 2
                 text 'tire 1 mood' = -17 2
                 """);
+        // Each letter of a NAME counts.
+        for (String name : new String[] {"plain", "glass", "shower", "view", "mood", "tire"}) {
+            for (int at = 0; at < name.length(); at++) {
+                texts(e, "text '" + name.substring(0, at) + "x" + name.substring(at + 1) + " 1 1;' = -10 2");
+                texts(e, "text '" + name.substring(0, at) + name.substring(at + 1) + " 1 1;' = -10 2");
+            }
+        }
     }
 
     private static void outOfBounds(Edge e) {
