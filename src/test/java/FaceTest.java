@@ -6,6 +6,7 @@ import java.lang.reflect.Modifier;
 import java.nio.file.Files;
 import java.nio.file.Path;
 import java.util.ArrayList;
+import java.util.Arrays;
 import java.util.List;
 import java.util.Set;
 import java.util.TreeSet;
@@ -44,7 +45,7 @@ public final class FaceTest {
     }
 
     private static String told(Method m) {
-        return m.getReturnType() + " " + m.getName() + "/" + m.getParameterCount();
+        return m.getReturnType() + " " + m.getName() + Arrays.toString(m.getParameterTypes());
     }
 
     private static Set<String> less(Set<String> a, Set<String> b) {
@@ -63,8 +64,8 @@ public final class FaceTest {
                 face.add("HamperDays()");
             } else if (call.startsWith("int ") || call.startsWith("long ")) {
                 String in = call.substring(call.indexOf('(') + 1, call.indexOf(')'));
-                int count = in.isEmpty() ? 0 : in.split(",").length;
-                face.add(call.substring(0, call.indexOf('(')) + "/" + count);
+                String[] types = in.isEmpty() ? new String[0] : in.replaceAll(" \\w+(?=,|$)", "").split(", ");
+                face.add(call.substring(0, call.indexOf('(')) + Arrays.toString(types));
             }
         }
         return face;

@@ -1,11 +1,19 @@
 import java.nio.file.Files;
 import java.nio.file.Path;
+import java.util.HashMap;
+import java.util.Map;
+import java.util.Set;
+import java.util.TreeSet;
 import java.util.regex.Matcher;
 import java.util.regex.Pattern;
 
 /** The rules of LANGUAGE.md that can be seen in the words of the source. */
 public final class LanguageTest {
     private static final Check check = new Check();
+    private static final Set<String> LIBRARY = Set.of("max", "min", "abs", "compare", "bitCount", "arraycopy",
+            "length", "charAt");
+    private static final Set<String> WORDS = Set.of("if", "for", "while", "switch", "return");
+    private static final int DEEPEST = 8;
 
     public static void main(String[] args) throws Exception {
         String whole = Files.readString(Path.of("src/main/java/HamperDays.java"));
@@ -18,6 +26,8 @@ public final class LanguageTest {
         none(code, "2 lambdas, method references", "->|::");
         none(code, "4 Exact", "\\w+Exact\\b");
         none(code, "5 static blocks", "static\\s*\\{");
+        none(code, "2 classes without a name", "\\bnew \\w+\\([^()]*\\) *\\{");
+        none(code, "5 static fields of other types", "\\bstatic (?!final (int|class) |(boolean|void|int|long) \\w+\\()");
         none(code, "6 equals, hashCode, toString, getClass", "\\b(hashCode|toString|getClass|equals)\\b");
         none(code, "3 var, Object, wide types", "\\b(var|Object|Long|Short|Byte|Character|Boolean|Double|Float)\\b");
         none(code, "9 loops without an end", "while\\s*\\(\\s*true|for\\s*\\(\\s*;\\s*;");
@@ -27,6 +37,7 @@ public final class LanguageTest {
         none(code, "10 texts joined by +", "\"\"\\s*\\+|\\+\\s*\"\"");
         lengths(code);
         parameters(code);
+        calls(callsByMethod(code));
         check.close();
     }
 
@@ -54,5 +65,39 @@ public final class LanguageTest {
         while (m.find()) {
             check.holds("rule 11: at most seven parameters: " + m.group(), m.group(1).split(",").length <= 7);
         }
+    }
+
+    /** Of each method of the file, by its name, the names that it calls; methods of one name are taken together. */
+    private static Map<String, Set<String>> callsByMethod(String code) {
+        Map<String, Set<String>> all = new HashMap<>();
+        Matcher method = Pattern.compile("(?ms)^( {4}| {8})(?:[a-z]+ )*\\w+(?:\\[\\])? (\\w+)\\([^()]*\\) \\{\n(.*?)^\\1\\}").matcher(code);
+        while (method.find()) {
+            Set<String> called = all.computeIfAbsent(method.group(2), name -> new TreeSet<>());
+            Matcher call = Pattern.compile("(?<!new )\\b(\\w+)\\(").matcher(method.group(3));
+            while (call.find()) {
+                called.add(call.group(1));
+            }
+            called.removeAll(WORDS);
+        }
+        return all;
+    }
+
+    private static void calls(Map<String, Set<String>> all) {
+        check.holds("methods were found", all.size() > 39);
+        all.forEach((name, called) -> {
+            for (String other : called) {
+                check.holds("rule 4: " + name + " calls " + other, all.containsKey(other) || LIBRARY.contains(other));
+            }
+            check.holds("rules 8, 11: " + name + " goes too deep", depth(name, all, 0) <= DEEPEST);
+        });
+    }
+
+    /** How many calls stand open at once at the most; one that comes round to itself is as deep as none may be. */
+    private static int depth(String name, Map<String, Set<String>> all, int above) {
+        int deepest = 0;
+        for (String other : all.getOrDefault(name, Set.of())) {
+            deepest = above > DEEPEST ? deepest : Math.max(deepest, depth(other, all, above + 1));
+        }
+        return deepest + 1;
     }
 }
